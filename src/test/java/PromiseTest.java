@@ -1,3 +1,6 @@
+import java.util.ArrayList;
+import java.util.List;
+
 /** For each promise of the document: ordinary inputs, the edges that it names, wrong inputs. */
 public final class PromiseTest {
 
@@ -57,6 +60,7 @@ public final class PromiseTest {
         write();
         commit();
         commitInOtherOrders();
+        commitBetween();
         drop();
         want();
         pass();
@@ -65,6 +69,7 @@ public final class PromiseTest {
         passWithMemory();
         passOutOfOrder();
         passWithOtherTicks();
+        passWithAllMessages();
         lose();
         sweep();
         set();
@@ -74,6 +79,8 @@ public final class PromiseTest {
         obey();
         keepAndGoBack();
         undo();
+        undoOfContents();
+        goBackToOtherRows();
         row();
         transaction();
         receiver();
@@ -198,6 +205,8 @@ public final class PromiseTest {
         x.undo();
         x.undo();
         same("commit undone", x.count(3), 59);
+        same("its row is in the transaction", x.transaction(0, 0), 1);
+        same("and no other call", x.transaction(1, 0), 2);
     }
 
     private static void commitInOtherOrders() {
@@ -238,6 +247,33 @@ public final class PromiseTest {
                 same("rows by writing " + rank + ", " + what, y.row(rank, what), due[rank][what]);
             }
         }
+    }
+
+    /** The numbers of the rows that are kept, as digits of a number behind a 1. */
+    private static int numbersOf(OutboxRelay x) {
+        int digits = 1;
+        for (int rank = 0; rank < x.count(3); rank++) {
+            digits = 10 * digits + x.row(rank, 0);
+        }
+        return digits;
+    }
+
+    private static void commitBetween() {
+        OutboxRelay x = relayWith(0, 1);
+        x.begin();
+        x.begin();
+        x.begin();
+        int[] places = {1, 0, 2, 1, 2, 0, 2, 1};
+        for (int place : places) {
+            x.write(place, 0, 1);
+        }
+        x.commit(2);
+        same("rows by writing", numbersOf(x), 1246);
+        x.commit(0);
+        same("with more", numbersOf(x), 112456);
+        x.commit(1);
+        same("with all", numbersOf(x), 101234567);
+        same("commit numbers", x.row(0, 2) * 100 + x.row(1, 2) * 10 + x.row(7, 2), 537);
     }
 
     // Promise 5
@@ -399,6 +435,24 @@ public final class PromiseTest {
         y.pass(10);
         same("one alone is forgotten", y.receiver(1, 2), 5);
 
+        OutboxRelay w = relayWith(BY_MARK, 0, MEMORY, 20, ROWS, 8);
+        for (int i = 0; i < 4; i++) {
+            obeyed(w, "b;w00=1;w00=1;w00=1;w00=1;w00=1;w00=1;c0");
+        }
+        w.pass(12);
+        same("twenty are remembered", w.receiver(1, 2), 20);
+        int[] latest = new int[20];
+        for (int i = 0; i < 20; i++) {
+            latest[i] = i + 4;
+        }
+        same("the latest twenty", w.digest(), digestBySight(w, false, "", latest));
+        w.sweep();
+        w.undo();
+        long before = w.digest();
+        obeyed(w, "b;w00=1;c0;t5");
+        w.undo();
+        same("and remembered when another one is undone", w.digest(), before);
+
         OutboxRelay z = relayWith(BY_MARK, 0, MEMORY, 2, ROWS, 2, WAIT, 1);
         commitRows(z, 0, 1, 0, 2);
         z.pass(4);
@@ -466,6 +520,19 @@ public final class PromiseTest {
         same("as they were sent", y.message(0, 2), 1);
         same("receiver 0 first", y.message(0, 1) + 10 * y.message(1, 1) + 100 * y.message(2, 1), 210);
         same("due in one tick, by sending", y.message(3, 2) * 10 + y.message(4, 2), 22);
+    }
+
+    private static void passWithAllMessages() {
+        OutboxRelay x = relayWith(TICKS, 9, WAIT, 1, ROWS, 1);
+        commitRows(x, 0, 1, 0, 1, 0, 1);
+        x.pass(18);
+        same("all that can be on their way", x.count(7), 54);
+        same("effects and answers in one tick", x.pass(1), 0);
+        same("as many again", x.count(7), 54);
+        same("the last one", x.message(53, 2) * 10 + x.message(53, 1), 92);
+        same("batches", x.count(8), 57);
+        same("answers", x.count(9), 3);
+        same("drained", x.pass(99) + x.drainIn(), 6);
     }
 
     // Promise 8
@@ -697,6 +764,14 @@ public final class PromiseTest {
         x.undo();
         x.undo();
         same("undo does not touch it", x.goBack(), 7);
+        OutboxRelay y = relayWith(ROWS, 1);
+        commitRows(y, 0, 1, 0, 2);
+        y.pass(1);
+        y.keep();
+        y.pass(30);
+        y.goBack();
+        y.pass(4);
+        same("what the relay waits for is back", y.count(8), 6);
     }
 
     // Promise 17
@@ -733,6 +808,102 @@ public final class PromiseTest {
         same("again as it was", y.digest(), before);
     }
 
+    private static void undoOfContents() {
+        OutboxRelay x = new OutboxRelay();
+        obeyed(x, "b;w01=11;w02=22");
+        long before = x.digest();
+        obeyed(x, "d0;b;b;w13=33;w10=44;w00=5;w00=6");
+        x.undo();
+        same("rows of a transaction are back", x.digest(), before);
+        obeyed(x, "c0;t9;s");
+        long later = x.digest();
+        x.undo();
+        same("before they were committed", x.digest(), before);
+        obeyed(x, "w03=9;d0;b;w00=1;w00=2;c0;b;w03=3;c0;t9");
+        x.undo();
+        same("once more", x.digest(), before);
+        obeyed(x, "c0");
+        same("committed anew, without effects", x.row(0, 5) + x.row(1, 5), 0);
+        same("and not sent", x.row(0, 7), 1);
+        x.undo();
+        same("the same orders bring the same", obeyed(x, "c0;t9;s"), 3);
+        same("in all", x.digest(), later);
+        x.keep();
+        long kept = x.digest();
+        obeyed(x, "b;w00=1;c0;t2");
+        x.goBack();
+        x.undo();
+        x.undo();
+        same("before and behind the snapshot", x.digest(), kept);
+
+        OutboxRelay y = relayWith(BY_MARK, 0, MEMORY, 1, WAIT, 1);
+        obeyed(y, "b;w00=4;w00=6;c0;t4");
+        y.clearBuffer();
+        long twice = y.digest();
+        same("out of order", y.receiver(1, 7), 1);
+        y.pass(7);
+        y.undo();
+        same("effects and what is counted of them are back", y.digest(), twice);
+    }
+
+    private static void goBackToOtherRows() {
+        OutboxRelay x = relayWith(LOSS, 4);
+        obeyed(x, "b;b;b;w10=1;w02=2;c0;w21=7;w23=8;t5;b;w03=44;c0;c1;t1");
+        x.keep();
+        List<Number> kept = stateOf(x);
+        x.undo();
+        List<Number> before = stateOf(x);
+        obeyed(x, "b;b;b;w12=3;w11=4;w13=5;c1;w20=6;c2;w00=50;t5");
+        List<Number> other = stateOf(x);
+        x.goBack();
+        same("rows as in the snapshot", stateOf(x), kept);
+        x.undo();
+        same("and as they were", stateOf(x), other);
+        x.undo();
+        same("and before them", stateOf(x), before);
+        x.goBack();
+        same("rows as in the snapshot again", stateOf(x), kept);
+        x.pass(30);
+        List<Number> later = stateOf(x);
+        x.undo();
+        x.pass(30);
+        same("the same ticks bring the same", stateOf(x), later);
+        same("another transaction in that place", obeyed(x, "d2;b;b;b;w22=1;w22=1"), 6);
+        x.goBack();
+        x.commit(2);
+        same("topics of a transaction are back too", x.row(3, 3) * 10 + x.row(4, 3), 13);
+    }
+
+    /** All that the looks tell, but for the saved states. */
+    private static List<Number> stateOf(OutboxRelay x) {
+        List<Number> told = new ArrayList<>();
+        for (int i = 0; i < 11; i++) {
+            told.add(x.count(i));
+        }
+        for (int i = 0; i < 7; i++) {
+            told.add(x.setting(i));
+        }
+        for (int i = 0; i < 8 * x.count(3); i++) {
+            told.add(x.row(i / 8, i % 8));
+        }
+        for (int i = 0; i < 24; i++) {
+            told.add(i % 6 < 3 ? x.transaction(i / 6, i % 6) : x.skips(i / 6, i % 6 - 3));
+        }
+        for (int i = 0; i < 42; i++) {
+            told.add(x.receiver(i / 14, i % 14));
+        }
+        for (int i = 0; i < 5 * x.count(7); i++) {
+            told.add(x.message(i / 5, i % 5));
+        }
+        for (int i = 0; i < 12; i++) {
+            told.add(x.ifPassed(20, i / 4, i % 4));
+        }
+        told.add(x.drainIn());
+        told.add(x.goodShare());
+        told.add(x.meanBatch());
+        return told;
+    }
+
     // Promise 18
 
     private static void row() {
@@ -760,6 +931,13 @@ public final class PromiseTest {
         for (int what = 0; what < 5; what++) {
             same("row 1, " + what, x.row(1, what), due[what]);
         }
+        OutboxRelay z = new OutboxRelay();
+        commitRows(z, 0, 1);
+        z.pass(1);
+        z.lose();
+        z.pass(2);
+        same("by the lowest, on whom it had none", z.row(0, 7), 3);
+        same("though it had on others", z.row(0, 5), 6);
         OutboxRelay y = relayWith(LOSS, 3);
         commitRows(y, 0, 1);
         y.pass(5);
@@ -823,6 +1001,14 @@ public final class PromiseTest {
         same("by its mark", x.receiver(2, 12), 17);
         same("remembers four", x.receiver(2, 2), 4);
         same("messages of it", x.receiver(2, 13), 1);
+        OutboxRelay y = relayWith(WAIT, 1);
+        commitRows(y, 0, 1);
+        y.pass(3);
+        for (int r = 0; r < 3; r++) {
+            same("an answer and two batches", y.receiver(r, 13), 3);
+        }
+        y.lose();
+        same("one less", y.receiver(0, 13) * 10 + y.receiver(1, 13), 23);
     }
 
     private static void receiverLost() {
@@ -934,6 +1120,13 @@ public final class PromiseTest {
         same("one tick more", x.drainIn(), 1);
         x.pass(1);
         same("drained", x.drainIn(), 0);
+        OutboxRelay one = new OutboxRelay();
+        one.want(0, 0);
+        one.want(1, 0);
+        commitRows(one, 0, 1);
+        one.pass(1);
+        one.want(2, 0);
+        same("a message on its way, but no rows", one.drainIn(), 4);
         OutboxRelay y = relayWith(WAIT, 1);
         commitRows(y, 0, 1);
         same("with those that are sent again", y.drainIn(), 8);
@@ -978,6 +1171,9 @@ public final class PromiseTest {
         same("answer mark then", x.ifPassed(2, 1, 3), 1);
         same("nothing is changed", x.digest(), before);
         same("as it is", x.pass(1), 6);
+        same("second effects so far", x.receiver(1, 6), 2);
+        same("and in the next tick alone", x.ifPassed(1, 1, 2), 2);
+        same("effects in the next tick alone", x.ifPassed(1, 1, 0), 2);
         OutboxRelay y = relayWith(WAIT, 1);
         commitRows(y, 0, 4);
         y.pass(4);
@@ -1007,9 +1203,21 @@ public final class PromiseTest {
         same("two rows", x.skips(0, 0), 2);
         x.want(0, 4);
         same("one that it wants", x.skips(0, 0), 1);
+        x.begin();
+        x.write(1, 2, 1);
+        x.write(1, 2, 1);
+        same("none of the later ones", x.skips(1, 0), 0);
+        OutboxRelay z = relayWith(0, 1);
+        z.begin();
+        for (int i = 0; i < 6; i++) {
+            z.write(0, 0, 1);
+        }
+        obeyed(z, "b;w10=1;c1;t5");
+        same("six of them", z.skips(0, 1), 6);
         OutboxRelay y = new OutboxRelay();
         y.begin();
         y.begin();
+        y.write(0, 1, 1);
         y.write(0, 1, 1);
         y.write(1, 0, 2);
         y.commit(1);
@@ -1022,6 +1230,18 @@ public final class PromiseTest {
     private static void slowest() {
         OutboxRelay x = new OutboxRelay();
         same("none is behind", x.slowest(), -1);
+        commitRows(x, 3, 1);
+        x.want(0, 0);
+        same("one row", x.slowest(), 1);
+        x.undo();
+        x.want(0, 7);
+        x.want(1, 7);
+        x.want(2, 7);
+        same("no row that any wants", x.slowest(), -1);
+        x.want(0, 15);
+        x.want(1, 15);
+        x.want(2, 15);
+        x.pass(5);
         commitRows(x, 0, 1, 1, 1, 2, 1);
         same("the lowest of several", x.slowest(), 0);
         x.want(0, 1);
@@ -1047,6 +1267,15 @@ public final class PromiseTest {
         same("two of three", x.goodShare(), 1.0 / 3.0);
         x.lose();
         same("all lost", x.goodShare(), 0.0);
+        OutboxRelay y = new OutboxRelay();
+        y.want(0, 0);
+        y.want(1, 0);
+        commitRows(y, 0, 1, 0, 1);
+        y.pass(1);
+        same("one message", y.goodShare(), 1.0);
+        same("one batch", y.meanBatch(), 2.0f);
+        y.lose();
+        same("one message, lost", y.goodShare(), 0.0);
     }
 
     // Promise 29
@@ -1086,6 +1315,25 @@ public final class PromiseTest {
         x.clearBuffer();
         x.pass(8);
         same("digest later", x.digest(), digestBySight(x, true, "", 1, 2));
+        int[][] remembered = {{0}, {0, 1}, {0, 1, 2}, {0, 1, 2, 3}, {1, 2, 3, 4}};
+        for (int rows = 1; rows <= 5; rows++) {
+            OutboxRelay y = relayWith(ROWS, 8, TICKS, rows);
+            y.begin();
+            for (int i = 0; i < rows; i++) {
+                y.write(0, i % 4, 7 * i);
+            }
+            y.commit(0);
+            y.pass(1);
+            for (int i = 1; i < rows; i++) {
+                y.lose();
+                if (y.count(7) == 0) {
+                    break;
+                }
+            }
+            same("digest with " + rows + " rows in a batch", y.digest(), digestBySight(y, false, ""));
+            y.pass(99);
+            same("and behind them", y.digest(), digestBySight(y, false, "", remembered[rows - 1]));
+        }
     }
 
     /** The digest from what the other calls tell; the memory of each receiver is told by the caller. */
