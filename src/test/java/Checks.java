@@ -1,3 +1,5 @@
+import java.util.Objects;
+
 /** Counts and prints the answers that are not as due. */
 final class Checks {
 
@@ -5,7 +7,7 @@ final class Checks {
         void run();
     }
 
-    private final String name;
+    private String name;
     private int checked = 0;
     private int wrong = 0;
 
@@ -13,17 +15,20 @@ final class Checks {
         this.name = name;
     }
 
+    void rename(String newName) {
+        name = newName;
+    }
+
     void same(String what, Object got, Object due) {
         checked++;
-        if (!got.equals(due)) {
+        if (!Objects.equals(got, due)) {
             wrong++;
             System.out.println(name + ": " + what + " is " + got + ", due is " + due);
         }
     }
 
-    /** That the call throws this very exception, and that the digest is the same behind it. */
-    void refused(OutboxRelay relay, String what, Class<?> due, Call call) {
-        long before = relay.digest();
+    /** That the call throws this very exception, not one of a class below it. */
+    void thrown(String what, Class<?> due, Call call) {
         Object got = "nothing";
         try {
             call.run();
@@ -31,6 +36,12 @@ final class Checks {
             got = e.getClass();
         }
         same(what + " throws", got, due);
+    }
+
+    /** That the call throws this very exception, and that the digest is the same behind it. */
+    void refused(OutboxRelay relay, String what, Class<?> due, Call call) {
+        long before = relay.digest();
+        thrown(what, due, call);
         same(what + " leaves the digest", relay.digest(), before);
     }
 

@@ -3,6 +3,7 @@ import java.util.Random;
 /** Long runs of calls on the program and on NaiveOutbox; every answer must be the same. */
 public final class ModelTest {
 
+    /** What later calls of an object answer is free. */
     private static final int CALLS = 512;
     private static final String[] PARTS = {"b", "w00=5", "w11=99", "w23=0", "w31=10", "c0", "c1", "c2", "c3", "d0",
         "t1", "t7", "t12", "s", "t0", "w04=1", "w1", "x", "w00=07", "d", ";"};
@@ -12,7 +13,7 @@ public final class ModelTest {
     private final int run;
     private final OutboxRelay relay = new OutboxRelay();
     private final NaiveOutbox naive = new NaiveOutbox();
-    private int nextDigest = 1;
+    private int calls = 0;
 
     private ModelTest(Checks checks, int run) {
         this.checks = checks;
@@ -33,6 +34,10 @@ public final class ModelTest {
     }
 
     private void same(String call, Asked got, Asked due) {
+        if (calls >= CALLS) {
+            return;
+        }
+        calls++;
         checks.same("run " + run + ": " + call, answerOf(got), answerOf(due));
     }
 
@@ -56,11 +61,10 @@ public final class ModelTest {
 
     private void run() {
         int style = below(4);
-        for (int i = 0; i < CALLS && checks.wrong() < 20; i++) {
+        while (calls < CALLS && checks.wrong() < 20) {
             call(style);
-            if (i == nextDigest) {
+            if (below(4) == 0) {
                 same("digest()", relay::digest, naive::digest);
-                nextDigest += 1 + below(6);
             }
         }
     }
@@ -198,7 +202,7 @@ public final class ModelTest {
     }
 
     public static void main(String[] args) {
-        int runs = args.length == 0 ? 40 : Integer.parseInt(args[0]);
+        int runs = args.length == 0 ? 150 : Integer.parseInt(args[0]);
         Checks checks = new Checks("ModelTest");
         for (int run = 1; run <= runs; run++) {
             new ModelTest(checks, run).run();

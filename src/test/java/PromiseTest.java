@@ -2,59 +2,10 @@ import java.util.ArrayList;
 import java.util.List;
 
 /** For each promise of the document: ordinary inputs, the edges that it names, wrong inputs. */
-public final class PromiseTest {
-
-    private static final Class<?> INDEX = IndexOutOfBoundsException.class;
-    private static final Class<?> ARGUMENT = IllegalArgumentException.class;
-    private static final Class<?> STATE = IllegalStateException.class;
-    private static final int[] FAR = {Integer.MIN_VALUE, Integer.MAX_VALUE};
-    private static final int TICKS = 1;
-    private static final int ROWS = 2;
-    private static final int WAIT = 3;
-    private static final int LOSS = 4;
-    private static final int BY_MARK = 5;
-    private static final int MEMORY = 6;
-
-    private static final Checks checks = new Checks("PromiseTest");
-
-    private static void same(String what, Object got, Object due) {
-        checks.same(what, got, due);
-    }
-
-    private static void refused(OutboxRelay x, String what, Class<?> due, Checks.Call call) {
-        checks.refused(x, what, due, call);
-    }
-
-    private static OutboxRelay relayWith(int... settings) {
-        OutboxRelay x = new OutboxRelay();
-        for (int i = 0; i + 1 < settings.length; i += 2) {
-            x.set(settings[i], settings[i + 1]);
-        }
-        return x;
-    }
-
-    /** Commits a transaction of rows, told as topic and value, one after the other. */
-    private static void commitRows(OutboxRelay x, int... topicsAndValues) {
-        int place = x.begin();
-        for (int i = 0; i + 1 < topicsAndValues.length; i += 2) {
-            x.write(place, topicsAndValues[i], topicsAndValues[i + 1]);
-        }
-        x.commit(place);
-    }
-
-    private static void type(OutboxRelay x, String text) {
-        for (int i = 0; i < text.length(); i++) {
-            x.append(text.charAt(i));
-        }
-    }
-
-    private static int obeyed(OutboxRelay x, String text) {
-        x.clearBuffer();
-        type(x, text);
-        return x.obey();
-    }
+public final class PromiseTest extends Relays {
 
     public static void main(String[] args) {
+        checks.rename("PromiseTest");
         newObject();
         begin();
         write();
@@ -67,6 +18,7 @@ public final class PromiseTest {
         passSendsAgain();
         passLosesAnswers();
         passWithMemory();
+        passWithTheGreatestMemory();
         passOutOfOrder();
         passWithOtherTicks();
         passWithAllMessages();
@@ -435,29 +387,28 @@ public final class PromiseTest {
         y.pass(10);
         same("one alone is forgotten", y.receiver(1, 2), 5);
 
-        OutboxRelay w = relayWith(BY_MARK, 0, MEMORY, 20, ROWS, 8);
-        for (int i = 0; i < 4; i++) {
-            obeyed(w, "b;w00=1;w00=1;w00=1;w00=1;w00=1;w00=1;c0");
-        }
-        w.pass(12);
-        same("twenty are remembered", w.receiver(1, 2), 20);
-        int[] latest = new int[20];
-        for (int i = 0; i < 20; i++) {
-            latest[i] = i + 4;
-        }
-        same("the latest twenty", w.digest(), digestBySight(w, false, "", latest));
-        w.sweep();
-        w.undo();
-        long before = w.digest();
-        obeyed(w, "b;w00=1;c0;t5");
-        w.undo();
-        same("and remembered when another one is undone", w.digest(), before);
-
         OutboxRelay z = relayWith(BY_MARK, 0, MEMORY, 2, ROWS, 2, WAIT, 1);
         commitRows(z, 0, 1, 0, 2);
         z.pass(4);
         same("repeats by the memory", z.receiver(0, 5), 2);
         same("no second effect", z.receiver(0, 6), 0);
+    }
+
+    private static void passWithTheGreatestMemory() {
+        Step full = inTurn(with(BY_MARK, 0, MEMORY, 20, ROWS, 8), x -> commitMany(x, 24), passing(12));
+        int[] latest = new int[20];
+        for (int i = 0; i < 20; i++) {
+            latest[i] = i + 4;
+        }
+        sameDigest("the latest twenty", full, false, "", latest);
+        OutboxRelay x = after(full);
+        same("twenty are remembered", x.receiver(1, 2), 20);
+        x.sweep();
+        x.undo();
+        long before = x.digest();
+        obeyed(x, "b;w00=1;c0;t5");
+        x.undo();
+        same("and remembered when another one is undone", x.digest(), before);
     }
 
     private static void passOutOfOrder() {
@@ -847,27 +798,22 @@ public final class PromiseTest {
     }
 
     private static void goBackToOtherRows() {
-        OutboxRelay x = relayWith(LOSS, 4);
-        obeyed(x, "b;b;b;w10=1;w02=2;c0;w21=7;w23=8;t5;b;w03=44;c0;c1;t1");
-        x.keep();
-        List<Number> kept = stateOf(x);
-        x.undo();
-        List<Number> before = stateOf(x);
-        obeyed(x, "b;b;b;w12=3;w11=4;w13=5;c1;w20=6;c2;w00=50;t5");
-        List<Number> other = stateOf(x);
-        x.goBack();
-        same("rows as in the snapshot", stateOf(x), kept);
-        x.undo();
-        same("and as they were", stateOf(x), other);
-        x.undo();
-        same("and before them", stateOf(x), before);
-        x.goBack();
-        same("rows as in the snapshot again", stateOf(x), kept);
-        x.pass(30);
-        List<Number> later = stateOf(x);
-        x.undo();
-        x.pass(30);
-        same("the same ticks bring the same", stateOf(x), later);
+        Step kept = inTurn(with(LOSS, 4), obeying("b;b;b;w10=1;w02=2;c0;w21=7;w23=8;t5;b;w03=44;c0;c1;t1"),
+            OutboxRelay::keep);
+        Step before = inTurn(kept, OutboxRelay::undo);
+        Step other = inTurn(before, obeying("b;b;b;w12=3;w11=4;w13=5;c1;w20=6;c2;w00=50;t5"));
+        Step back = inTurn(other, OutboxRelay::goBack);
+        Step undone = inTurn(back, OutboxRelay::undo);
+        Step twice = inTurn(undone, OutboxRelay::undo);
+        Step again = inTurn(twice, OutboxRelay::goBack);
+        same("rows as in the snapshot", stateAfter(back), stateAfter(kept));
+        same("and as they were", stateAfter(undone), stateAfter(other));
+        same("and before them", stateAfter(twice), stateAfter(before));
+        same("rows as in the snapshot again", stateAfter(again), stateAfter(kept));
+        Step later = inTurn(again, passing(30));
+        Step anew = inTurn(later, OutboxRelay::undo, passing(30));
+        same("the same ticks bring the same", stateAfter(anew), stateAfter(later));
+        OutboxRelay x = after(anew);
         same("another transaction in that place", obeyed(x, "d2;b;b;b;w22=1;w22=1"), 6);
         x.goBack();
         x.commit(2);
@@ -875,7 +821,8 @@ public final class PromiseTest {
     }
 
     /** All that the looks tell, but for the saved states. */
-    private static List<Number> stateOf(OutboxRelay x) {
+    private static List<Number> stateAfter(Step start) {
+        OutboxRelay x = after(start);
         List<Number> told = new ArrayList<>();
         for (int i = 0; i < 11; i++) {
             told.add(x.count(i));
@@ -1297,83 +1244,20 @@ public final class PromiseTest {
     // Promise 30
 
     private static void digest() {
-        OutboxRelay x = relayWith(0, 1, BY_MARK, 0, LOSS, 7);
-        same("digest", x.digest(), digestBySight(x, false, ""));
-        x.begin();
-        x.begin();
-        x.write(0, 1, 11);
-        x.write(1, 2, 22);
-        x.write(1, 3, 33);
-        x.commit(1);
-        x.pass(3);
-        x.begin();
-        type(x, "b;t");
-        x.keep();
-        same("digest on the way", x.digest(), digestBySight(x, true, "b;t", 1, 2));
-        same("digest once more", x.digest(), digestBySight(x, true, "b;t", 1, 2));
-        x.lose();
-        x.clearBuffer();
-        x.pass(8);
-        same("digest later", x.digest(), digestBySight(x, true, "", 1, 2));
+        Step first = with(NUMBERS, 1, BY_MARK, 0, LOSS, 7);
+        Step busy = inTurn(first, obeying("b;b;w01=11;w12=22;w13=33;c1;t3;b"), OutboxRelay::keep, x -> type(x, "b;t"));
+        Step later = inTurn(busy, OutboxRelay::lose, OutboxRelay::clearBuffer, passing(8));
+        sameDigest("digest", first, false, "");
+        sameDigest("digest on the way", busy, true, "b;t", 1, 2);
+        sameDigest("digest once more", inTurn(busy, OutboxRelay::digest), true, "b;t", 1, 2);
+        sameDigest("digest later", later, true, "", 1, 2);
         int[][] remembered = {{0}, {0, 1}, {0, 1, 2}, {0, 1, 2, 3}, {1, 2, 3, 4}};
         for (int rows = 1; rows <= 5; rows++) {
-            OutboxRelay y = relayWith(ROWS, 8, TICKS, rows);
-            y.begin();
-            for (int i = 0; i < rows; i++) {
-                y.write(0, i % 4, 7 * i);
-            }
-            y.commit(0);
-            y.pass(1);
-            for (int i = 1; i < rows; i++) {
-                y.lose();
-                if (y.count(7) == 0) {
-                    break;
-                }
-            }
-            same("digest with " + rows + " rows in a batch", y.digest(), digestBySight(y, false, ""));
-            y.pass(99);
-            same("and behind them", y.digest(), digestBySight(y, false, "", remembered[rows - 1]));
+            int many = rows;
+            Step sent = inTurn(with(ROWS, 8, TICKS, rows), x -> commitMany(x, many), passing(1));
+            sameDigest("digest with " + rows + " rows in a batch", sent, false, "");
+            sameDigest("and one is lost", inTurn(sent, OutboxRelay::lose), false, "");
+            sameDigest("and behind it", inTurn(sent, passing(99)), false, "", remembered[rows - 1]);
         }
-    }
-
-    /** The digest from what the other calls tell; the memory of each receiver is told by the caller. */
-    private static long digestBySight(OutboxRelay x, boolean kept, String text, int... memory) {
-        long hash = 3623;
-        for (int i = 0; i < 12; i++) {
-            hash = 31 * hash + x.count(i);
-        }
-        for (int i = 0; i < 7; i++) {
-            hash = 31 * hash + x.setting(i);
-        }
-        for (int i = 0; i < 8 * x.count(3); i++) {
-            hash = 31 * hash + x.row(i / 8, i % 8);
-        }
-        for (int i = 0; i < 24; i++) {
-            hash = 31 * hash + (i % 6 < 3 ? x.transaction(i / 6, i % 6) : x.skips(i / 6, i % 6 - 3));
-        }
-        for (int r = 0; r < 3; r++) {
-            for (int what = 0; what < 14; what++) {
-                hash = 31 * hash + x.receiver(r, what);
-            }
-            for (int number : memory) {
-                hash = 31 * hash + number;
-            }
-            for (int what = 0; what < 4; what++) {
-                hash = 31 * hash + x.ifPassed(10, r, what);
-            }
-        }
-        for (int i = 0; i < 5 * x.count(7); i++) {
-            hash = 31 * hash + x.message(i / 5, i % 5);
-        }
-        hash = 31 * hash + x.drainIn();
-        hash = 31 * hash + x.slowest();
-        hash = 31 * hash + Double.doubleToLongBits(x.goodShare());
-        hash = 31 * hash + Float.floatToIntBits(x.meanBatch());
-        hash = 31 * hash + (kept ? 1 : 0);
-        hash = 31 * hash + text.length();
-        for (int i = 0; i < text.length(); i++) {
-            hash = 31 * hash + text.charAt(i);
-        }
-        return hash;
     }
 }
