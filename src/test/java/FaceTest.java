@@ -63,7 +63,9 @@ public final class FaceTest {
             checks.same(inside + " is static", Modifier.isStatic(inside.getModifiers()), true);
             checks.same(inside + " is not public", Modifier.isPublic(inside.getModifiers()), false);
             for (Method method : inside.getDeclaredMethods()) {
-                privateNames.add(method.getName());
+                if (Modifier.isPrivate(method.getModifiers())) {
+                    privateNames.add(method.getName());
+                }
             }
         }
         privateNames.retainAll(publicNames);

@@ -45,6 +45,19 @@ public final class LookBoundaryTest extends Relays {
         same("commit numbers", ofRows(x, 2), List.of(1, 0, 2));
     }
 
+    @Sentence(promise = 18, says = "- `rank`: 0 for the one with the least number, and so on")
+    static void rowsComeBeforeBetweenAndBehindOthers() {
+        OutboxRelay x = relayWith(NUMBERS, 1);
+        obeyed(x, "b;b;b;w10=1;w00=1;w20=1;w10=1;w20=1;w00=1;w20=1;w10=1");
+        x.commit(2);
+        same("rows of one", ofRows(x, 0), List.of(2, 4, 6));
+        x.commit(0);
+        same("with those before and between", ofRows(x, 0), List.of(1, 2, 4, 5, 6));
+        x.commit(1);
+        same("with all", ofRows(x, 0), List.of(0, 1, 2, 3, 4, 5, 6, 7));
+        same("commit numbers", ofRows(x, 2), List.of(5, 3, 0, 6, 1, 4, 2, 7));
+    }
+
     @Sentence(promise = 18, says = "0: its number; 1: its write number; 2: its commit number; 3: its topic; 4: its value")
     static void theFirstKindsOfARow() {
         OutboxRelay x = relayWith(NUMBERS, 1);

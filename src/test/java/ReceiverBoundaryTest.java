@@ -317,6 +317,15 @@ public final class ReceiverBoundaryTest extends Relays {
     }
 
     @Sentence(says = OUT_OF_ORDER)
+    static void byTheGreatestNumberBeforeAndNotByTheLatest() {
+        OutboxRelay x = remembering(1, 0, 1, 1, 2, 2, 4);
+        effectsOfSendingAgain(x, 1);
+        same("row 0 behind row 2", x.receiver(0, 7), 1);
+        effectsOfSendingAgain(x, 2);
+        same("row 1 behind rows 2 and 0", x.receiver(0, 7), 2);
+    }
+
+    @Sentence(says = OUT_OF_ORDER)
     static void byTheEffectsOfThisReceiverAlone() {
         OutboxRelay x = relayWith(ROWS, 1);
         commitRows(x, 0, 1, 1, 1);

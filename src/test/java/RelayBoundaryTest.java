@@ -249,6 +249,22 @@ public final class RelayBoundaryTest extends Relays {
         same("it never came", x.count(9), 0);
     }
 
+    @Sentence(says = LOST)
+    static void aLostBatchWasSentAndIsWaitedFor() {
+        OutboxRelay x = loneWith(LOSS, 2, TICKS, 9, WAIT, 3, ROWS, 1);
+        commitRows(x, 0, 1, 1, 2);
+        x.pass(1);
+        x.want(0, 2);
+        x.pass(3);
+        same("two batches, one of them lost", told(4, i -> x.count(5 + i)), List.of(2, 1, 1, 2));
+        same("of one row each", x.meanBatch(), 1.0f);
+        same("the row of the lost one was sent", x.row(1, 7), 3);
+        x.pass(2);
+        same("it is waited for", List.of(x.receiver(0, 9), x.count(8)), List.of(1, 2));
+        x.pass(1);
+        same("and sent again", x.count(8), 3);
+    }
+
     // Terms: a tick
 
     @Sentence(says = IN_ORDER)

@@ -12,15 +12,44 @@ public final class UndoBoundaryTest extends Relays {
 
     /** That the call saves one state, and that undo() brings back all that was but the buffer. */
     private static void undoable(Step start, Step call) {
-        OutboxRelay x = after(start);
+        OutboxRelay x = after(inTurn(start, OutboxRelay::clearBuffer));
         int saved = x.count(11);
         call.on(x);
         same("saved states", x.count(11), saved + 1);
-        x.undo();
-        x.clearBuffer();
-        OutboxRelay y = after(start);
-        y.clearBuffer();
-        same("all is as it was", storyOf(x), storyOf(y));
+        sameStates(inTurn(start, call, OutboxRelay::undo), start);
+    }
+
+    /** That all is the same but for the buffer, in what can be seen and in what comes of it. */
+    private static void sameStates(Step start, Step other) {
+        Step one = inTurn(start, OutboxRelay::clearBuffer);
+        Step two = inTurn(other, OutboxRelay::clearBuffer);
+        same("what is, and what was", storyOf(after(one)), storyOf(after(two)));
+        same("what will be", futureOf(after(one)), futureOf(after(two)));
+    }
+
+    /** The digests when what is open is committed, ticks pass, and rows are swept. */
+    private static List<Object> futureOf(OutboxRelay x) {
+        List<Object> future = new ArrayList<>();
+        for (String orders : new String[] {"t1", "t2", "c0", "c1", "c2", "c3", "t1", "t4", "t40", "s"}) {
+            obeyed(x, orders);
+            future.add(x.digest());
+        }
+        return future;
+    }
+
+    /** Second effects, repeats, effects out of order, lost rows, a memory that forgot, and messages on their way. */
+    private static void isWorn(OutboxRelay x) {
+        with(NUMBERS, 1, BY_MARK, 0, MEMORY, 1, WAIT, 1).on(x);
+        obeyed(x, "b;b;w00=1;w10=2;w13=4;c1;t6;c0;s");
+        obeyed(x, "b;b;w01=3;w02=5;w12=6;w11=7;c1;t4");
+        makeRoom(x);
+    }
+
+    /** Leaves the state as it is, but four saved ones of the six. */
+    private static void makeRoom(OutboxRelay x) {
+        x.keep();
+        told(3, i -> x.undo());
+        x.goBack();
     }
 
     /** That the call saves nothing, with few and with many saved states. */
@@ -166,6 +195,57 @@ public final class UndoBoundaryTest extends Relays {
         same("counts", told(12, x::count), counts);
         same("receivers", List.of(receiverOf(x, 0), receiverOf(x, 1), receiverOf(x, 2)), receivers);
         same("shares", List.of(x.goodShare(), x.meanBatch()), List.of(share, batch));
+    }
+
+    @Sentence(says = ALL_BUT)
+    static void whatIsCountedOfReceiversIsBack() {
+        OutboxRelay x = after(UndoBoundaryTest::isWorn);
+        List<Integer> none = List.of(0, 0, 0);
+        for (int what : new int[] {2, 3, 4, 6, 7, 11}) {
+            same("there is something of number " + what, ofReceivers(x, what).equals(none), false);
+        }
+        undoable(UndoBoundaryTest::isWorn, obeying("c0;t9;s;t9"));
+        undoable(UndoBoundaryTest::isWorn, passing(9));
+    }
+
+    @Sentence(says = ALL_BUT)
+    static void rowsOfTransactionsAreBack() {
+        Step open = obeying("b;b;w01=11;w02=22;w13=33");
+        undoable(open, obeying("d0;d1;b;w03=1;w00=2;w00=3;b;w10=4;b;w21=5"));
+        undoable(open, obeying("c0;c1;b;b;w13=9;w10=9;w02=8;w03=8;t9;s"));
+        undoable(UndoBoundaryTest::isWorn, obeying("d0;b;b;w03=1;w13=1;w03=1"));
+    }
+
+    @Sentence(says = ALL_BUT)
+    static void rowsThatAreKeptAreBack() {
+        Step kept = inTurn(with(NUMBERS, 1, ROWS, 1), obeying("b;b;b;w00=1;w11=2;w22=3;w13=4;c1;t3"));
+        undoable(kept, obeying("c0;c2;t2;d1"));
+        undoable(kept, obeying("c2;b;w10=9;c1;c0;t30;s"));
+        Step other = inTurn(kept, OutboxRelay::undo, obeying("b;b;b;w23=50;w12=60;c2;w11=70;c1;t4"));
+        sameStates(inTurn(other, OutboxRelay::undo), inTurn(kept, OutboxRelay::undo));
+    }
+
+    @Sentence(says = ALL_BUT)
+    static void rowsAreBackAlsoIfOthersWereCommittedInTheirPlace() {
+        Step kept = inTurn(OutboxRelay::keep, obeying("b;w01=11;w02=22;c0;t1"));
+        Step other = inTurn(kept, OutboxRelay::goBack, obeying("b;b;w13=5;w00=33;w00=44;w00=55;c0;t3"));
+        sameStates(inTurn(other, OutboxRelay::undo, OutboxRelay::undo), kept);
+    }
+
+    @Sentence(says = ALL_BUT)
+    static void aFullMemoryIsBack() {
+        Step full = inTurn(with(BY_MARK, 0, MEMORY, 20, ROWS, 8), x -> commitMany(x, 20), passing(20),
+            UndoBoundaryTest::makeRoom);
+        same("remembered", after(full).receiver(2, 2), 20);
+        undoable(full, obeying("b;w00=1;w00=1;c0;t5"));
+    }
+
+    @Sentence(says = ALL_BUT)
+    static void messagesAreBack() {
+        Step sent = inTurn(with(TICKS, 4, WAIT, 2, ROWS, 2, LOSS, 7), obeying("b;w00=1;w01=2;w02=3;c0;t4"));
+        undoable(sent, passing(1));
+        undoable(sent, passing(99));
+        undoable(sent, OutboxRelay::lose);
     }
 
     @Sentence(says = ALL_BUT)

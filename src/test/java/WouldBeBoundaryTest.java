@@ -245,9 +245,17 @@ public final class WouldBeBoundaryTest extends Relays {
     @Sentence(promise = 26, says = SKIPS)
     static void noneAreSkippedByTheOrderOfCommitting() {
         OutboxRelay x = relayWith(NUMBERS, 0);
-        obeyed(x, "b;b;w00=1;w10=2;w10=2;c1;t5");
+        obeyed(x, "b;b;w00=1;w00=1;w00=1;w10=2;w10=2;c1;t5");
         same("answer mark", x.receiver(0, 8), 1);
-        same("row 2 by committing, though written first", x.skips(0, 0), 0);
+        same("rows 2 to 4 by committing, though written first", x.skips(0, 0), 0);
+    }
+
+    @Sentence(promise = 26, says = SKIPS)
+    static void byTheOrderOfWritingTheCommitNumbersDoNotCount() {
+        OutboxRelay x = relayWith(NUMBERS, 1);
+        obeyed(x, "b;w00=1;w00=1;w00=1;d0;b;b;w00=1;w10=1;w10=1;c0;t5");
+        same("answer mark", x.receiver(0, 8), 3);
+        same("rows 4 and 5, with commit numbers 1 and 2", x.skips(1, 0), 0);
     }
 
     @Sentence(promise = 26, says = SKIPS)
@@ -355,6 +363,15 @@ public final class WouldBeBoundaryTest extends Relays {
     }
 
     @Sentence(promise = 29, says = MEAN)
+    static void meanBatchOfOneBatch() {
+        OutboxRelay x = loneWith();
+        commitRows(x, 0, 1, 0, 1);
+        x.pass(1);
+        same("batches", x.count(8), 1);
+        same("of two rows", x.meanBatch(), 2.0f);
+    }
+
+    @Sentence(promise = 29, says = MEAN)
     static void meanBatchOfOneRowAndOfEight() {
         for (int rows : new int[] {1, 8}) {
             OutboxRelay x = relayWith(ROWS, rows);
@@ -376,6 +393,16 @@ public final class WouldBeBoundaryTest extends Relays {
         same("two, two and three", x.meanBatch(), 7.0f / 3.0f);
         x.pass(4);
         same("answers are none", x.meanBatch(), 7.0f / 3.0f);
+    }
+
+    @Sentence(promise = 29, says = MEAN)
+    static void meanBatchOfLostBatchesToo() {
+        OutboxRelay x = relayWith(LOSS, 3);
+        commitRows(x, 0, 1, 1, 1, 2, 1);
+        x.want(0, 1);
+        x.want(1, 1);
+        x.pass(1);
+        same("one, one, and three that are lost", x.meanBatch(), 5.0f / 3.0f);
     }
 
     // Promise 30
