@@ -202,7 +202,7 @@ public final class ModelTest {
     }
 
     public static void main(String[] args) {
-        int runs = args.length == 0 ? 150 : Integer.parseInt(args[0]);
+        int runs = args.length == 0 ? 600 : Integer.parseInt(args[0]);
         Checks checks = new Checks("ModelTest");
         for (int run = 1; run <= runs; run++) {
             new ModelTest(checks, run).run();
