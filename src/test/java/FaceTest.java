@@ -1,7 +1,10 @@
+import java.io.IOException;
 import java.lang.reflect.Constructor;
 import java.lang.reflect.Field;
 import java.lang.reflect.Method;
 import java.lang.reflect.Modifier;
+import java.nio.file.Files;
+import java.nio.file.Path;
 import java.util.ArrayList;
 import java.util.Arrays;
 import java.util.HashSet;
@@ -12,6 +15,7 @@ import java.util.TreeSet;
 /** The public face: what the document lists, and no other visible member. */
 public final class FaceTest {
 
+    private static final Path DOCUMENT = Path.of("..", "shared", "DOC.md");
     private static final String[] FACE = {
         "int begin() IllegalStateException",
         "int write(int,int,int) IndexOutOfBoundsException IllegalArgumentException IllegalStateException",
@@ -44,8 +48,11 @@ public final class FaceTest {
         "long digest()",
     };
 
-    public static void main(String[] args) {
+    public static void main(String[] args) throws IOException {
         Checks checks = new Checks("FaceTest");
+        if (Files.exists(DOCUMENT)) {
+            checkDocument(checks);
+        }
         Set<String> visible = new TreeSet<>();
         Set<String> publicNames = new HashSet<>();
         Set<String> privateNames = new HashSet<>();
@@ -87,6 +94,29 @@ public final class FaceTest {
         }
         checks.same("visible fields", visible, List.of("public static final int OutboxRelay.NONE"));
         checks.same("NONE", OutboxRelay.NONE, -1);
+    }
+
+    /** That the document lists this face, and has a promise for each of its methods. */
+    private static void checkDocument(Checks checks) throws IOException {
+        Set<String> listed = new TreeSet<>();
+        Set<String> promised = new TreeSet<>();
+        for (String line : Files.readAllLines(DOCUMENT)) {
+            if (line.matches("    public .*\\(.*;")) {
+                listed.add(bare(line.replace("public ", "").replace(";", "")));
+            } else if (line.matches("`[^`]*\\)[^`]*`: .*")) {
+                promised.add(bare(line.substring(1, line.indexOf('`', 1))));
+            }
+        }
+        Set<String> due = new TreeSet<>(Arrays.asList(FACE));
+        due.add("OutboxRelay()");
+        checks.same("methods that the document lists", listed, due);
+        checks.same("methods with a promise", promised, due);
+    }
+
+    /** A signature of the document without the names of the arguments, written as signatureOf() writes it. */
+    private static String bare(String signature) {
+        String types = signature.strip().replaceAll("int \\w+(?=[,)])", "int");
+        return types.replace(", int", ",int").replace(" throws ", " ").replace(", ", " ");
     }
 
     private static String signatureOf(Method method) {

@@ -271,6 +271,19 @@ public final class LookBoundaryTest extends Relays {
         same("receiver 1", receiverOf(x, 1).subList(2, 8), List.of(0, 0, 0, 0, 0, 0));
     }
 
+    @Sentence(promise = 20, says = "8: its answer mark at the relay")
+    static void theAnswerMarkIsNoneUntilItsOwnAnswerComes() {
+        OutboxRelay x = relayWith(ROWS, 8);
+        commitRows(x, 0, 1, 1, 1);
+        x.want(1, 1);
+        x.want(2, 0);
+        x.pass(4);
+        same("before, when the marks are", List.of(x.receiver(0, 1), x.receiver(1, 1)), List.of(1, 0));
+        same("answer marks", ofReceivers(x, 8), List.of(-1, -1, -1));
+        x.pass(1);
+        same("behind the answers", ofReceivers(x, 8), List.of(1, 0, -1));
+    }
+
     @Sentence(promise = 20, says = "9: 1 if the relay waits for it, otherwise 0; 10: the rows for it, how many")
     static void waitingAndNotAndRowsForIt() {
         OutboxRelay x = loneWith();
@@ -311,6 +324,19 @@ public final class LookBoundaryTest extends Relays {
         same("kind 0", x.receiver(2, 0), 15);
         same("kind 13, the most", x.receiver(2, 13), 18);
         refusedBeside(0, 13, ARGUMENT, "what", (y, what) -> y.receiver(2, what));
+    }
+
+    @Sentence(promise = 20, says = "12: the sum that it should have")
+    static void theSumThatItShouldHaveIsItsSumIfNoRowIsMissedOrDoneTwice() {
+        OutboxRelay x = relayWith(LOSS, 3, WAIT, 1);
+        commitRows(x, 0, 99, 1, 50, 2, 25, 3, 1);
+        x.want(1, 5);
+        x.want(2, 0);
+        for (int tick = 0; tick < 9; tick++) {
+            same("sums behind " + tick, ofReceivers(x, 12), ofReceivers(x, 4));
+            x.pass(1);
+        }
+        same("at last", ofReceivers(x, 12), List.of(175, 124, 0));
     }
 
     @Sentence(promise = 20, says = DUE_SUM)
@@ -488,6 +514,18 @@ public final class LookBoundaryTest extends Relays {
         x.lose();
         x.pass(2);
         same("two of them came", List.of(x.count(5), x.count(8), x.count(9)), List.of(6, 3, 2));
+    }
+
+    @Sentence(promise = 22, says = "7: messages on their way; 8: batches sent so far; 9: answers that came so far")
+    static void noMessagesOnTheirWayAndAsManyAsThereCanBe() {
+        OutboxRelay x = withAllMessages();
+        same("on their way, batches, answers", told(3, i -> x.count(7 + i)), List.of(54, 54, 0));
+        x.lose();
+        x.pass(1);
+        same("two of three answers came", told(3, i -> x.count(7 + i)), List.of(54, 57, 2));
+        wantNothing(x);
+        x.pass(18);
+        same("and all others", told(3, i -> x.count(7 + i)), List.of(0, 57, 56));
     }
 
     @Sentence(promise = 22, says = "10: open transactions; 11: saved states")

@@ -92,6 +92,15 @@ public final class ReceiverBoundaryTest extends Relays {
         same("in the memory", ofReceivers(x, 2), List.of(0, 0, 0));
     }
 
+    @Sentence(says = "When a batch comes to a receiver, its rows are gone through by rising numbers.")
+    static void rowsOfABatchComeByRisingNumbersAlsoIfTheyWereCommittedOtherwise() {
+        Step batch = inTurn(with(NUMBERS, 1, ROWS, 4), obeying("b;b;w00=1;w10=2;w00=4;w10=8;c1;c0;t3"));
+        OutboxRelay x = after(batch);
+        same("none is a repeat by the mark", ofReceivers(x, 3), List.of(4, 4, 4));
+        same("none is out of order", ofReceivers(x, 7), List.of(0, 0, 0));
+        sameDigest("the memory", batch, false, "", 0, 1, 2, 3);
+    }
+
     @Sentence(says = BY_THE_MARK)
     static void theLeastNumberIsNoRepeatAtFirst() {
         OutboxRelay x = loneWith(BY_MARK, 1);
@@ -200,6 +209,15 @@ public final class ReceiverBoundaryTest extends Relays {
         OutboxRelay x = remembering(1, 0, 1, 1, 2);
         same("row 0 has an effect", effectsOfSendingAgain(x, 1), 1);
         same("the mark", x.receiver(0, 1), 1);
+    }
+
+    @Sentence(says = "and its number comes to the memory")
+    static void theNumberOfARowComesToTheMemoryOnce() {
+        Step one = inTurn(with(WAIT, 1), obeying("b;w03=5;c0;t2"));
+        sameDigest("before its effect", one, false, "");
+        sameDigest("behind it", inTurn(one, passing(1)), false, "", 0);
+        sameDigest("behind a repeat", inTurn(one, passing(2)), false, "", 0);
+        same("that was one", after(inTurn(one, passing(2))).receiver(2, 5), 1);
     }
 
     @Sentence(says = FORGETS)

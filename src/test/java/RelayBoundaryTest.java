@@ -1,3 +1,4 @@
+import java.util.ArrayList;
 import java.util.List;
 
 /** Boundary cases of the relay, its messages, ticks and sweeping, and of promises 7 to 9. */
@@ -14,6 +15,8 @@ public final class RelayBoundaryTest extends Relays {
     private static final String LOST = "If setting 4 is not 0, and the number of messages that were sent so far, this one"
         + " counted, is a multiple of it, it gets lost: it never comes.";
     private static final String IN_ORDER = "All messages that are due come, in the order in which they were sent.";
+    private static final String IN_THIS_ORDER = "In each tick that passes, in this order: 1. All messages that are due"
+        + " come, in the order in which they were sent. 2. For the receivers 0, 1 and 2, one after the other";
     private static final String ONE_BY_ONE = "For the receivers 0, 1 and 2, one after the other";
     private static final String AGAIN = "if the relay does not wait for the receiver, or sent the latest batch to it"
         + " setting 3 or more ticks ago, and there are rows for it, the relay sends it a batch";
@@ -174,6 +177,19 @@ public final class RelayBoundaryTest extends Relays {
 
     // Terms: messages
 
+    @Sentence(says = "A message is a batch or an answer.")
+    static void messagesAreBatchesAndThenAnswersAndThenNone() {
+        OutboxRelay x = loneWith();
+        commitRows(x, 0, 1);
+        List<List<Integer>> kinds = new ArrayList<>();
+        for (int tick = 1; tick <= 6; tick++) {
+            x.pass(1);
+            kinds.add(ofMessages(x, 0));
+        }
+        same("by the tick", kinds, List.of(List.of(0), List.of(0), List.of(1), List.of(1), List.of(), List.of()));
+        same("sent, batches, answers that came", List.of(x.count(5), x.count(8), x.count(9)), List.of(2, 1, 1));
+    }
+
     @Sentence(says = COMES)
     static void theLeastAndTheMostTicksOfAMessage() {
         for (int ticks : new int[] {1, 2, 9}) {
@@ -282,7 +298,16 @@ public final class RelayBoundaryTest extends Relays {
         same("the answers", ofMessages(x, 4), List.of(0, 1));
     }
 
-    @Sentence(says = IN_ORDER)
+    @Sentence(says = IN_THIS_ORDER)
+    static void answersAreSentAheadOfTheBatchesOfTheTick() {
+        OutboxRelay x = relayWith(TICKS, 1, WAIT, 1);
+        commitRows(x, 0, 1);
+        x.pass(2);
+        same("answers, then batches", ofMessages(x, 0), List.of(1, 1, 1, 0, 0, 0));
+        same("of the receivers", ofMessages(x, 1), List.of(0, 1, 2, 0, 1, 2));
+    }
+
+    @Sentence(says = IN_THIS_ORDER)
     static void messagesComeBeforeBatchesAreSent() {
         OutboxRelay x = loneWith(ROWS, 1);
         commitRows(x, 0, 1, 0, 1);

@@ -216,6 +216,14 @@ public final class TextBoundaryTest extends Relays {
 
     // Promise 11
 
+    @Sentence(promise = 11, says = "Appends a character to the buffer.")
+    static void appendsBehindTheLastCharacter() {
+        OutboxRelay x = typed("b;");
+        same("the third", x.append('w'), 3);
+        same("the fourth, an error", List.of(x.append('4'), x.firstError()), List.of(4, 3));
+        sameDigest("all of them", y -> type(y, "b;w4"), false, "b;w4");
+    }
+
     @Sentence(promise = 11, says = "- `code`: the character code, 33 to 126")
     static void appendTheLeastAndTheGreatestCode() {
         OutboxRelay x = new OutboxRelay();

@@ -179,6 +179,23 @@ public final class TransactionBoundaryTest extends Relays {
         same("write numbers", ofRows(x, 1), List.of(0, 1));
     }
 
+    @Sentence(says = "All below goes by these numbers.")
+    static void marksAndMessagesAndMemoryGoByTheNumbers() {
+        for (int setting = 0; setting <= 1; setting++) {
+            int second = setting == 0 ? 1 : 3;
+            Step start = inTurn(with(NUMBERS, setting), obeying("b;w00=1;w00=1;d0;b;w00=5;w00=6;c0;t1"));
+            OutboxRelay x = after(start);
+            same("the batches with " + setting, ofMessages(x, 4), List.of(second, second, second));
+            x.pass(2);
+            same("the marks", ofReceivers(x, 1), List.of(second, second, second));
+            same("the answers", ofMessages(x, 4), List.of(second, second, second));
+            sameDigest("the memory", inTurn(start, passing(2)), false, "", second - 1, second);
+            x.pass(2);
+            same("the answer marks", ofReceivers(x, 8), List.of(second, second, second));
+            same("the sums that they should have", ofReceivers(x, 12), List.of(11, 11, 11));
+        }
+    }
+
     // Promise 1
 
     @Sentence(promise = 1, says = NEW)

@@ -35,6 +35,10 @@ public final class WouldBeBoundaryTest extends Relays {
         return inTurn(with(NUMBERS, 1), obeying("b;b;w00=1;w03=1;w10=2;w00=1;c1;t5"));
     }
 
+    private static boolean isDrained(OutboxRelay x) {
+        return x.count(7) == 0 && ofReceivers(x, 10).equals(List.of(0, 0, 0));
+    }
+
     private static BigInteger hashWithoutOverflow(List<Long> values) {
         BigInteger hash = BigInteger.valueOf(3623);
         for (long value : values) {
@@ -109,6 +113,19 @@ public final class WouldBeBoundaryTest extends Relays {
     static void noneBehindThreeHundredTicks() {
         same("301", drainingIn(301).drainIn(), -1);
         same("361", drainingIn(361).drainIn(), -1);
+    }
+
+    @Sentence(promise = 24, says = "Tells how long it takes until all is sent and answered.")
+    static void drainInTellsAsPassBrings() {
+        for (int start = 0; start <= 30; start++) {
+            OutboxRelay x = after(inTurn(with(LOSS, 3, WAIT, 3), Relays::isBusy, passing(start + 1)));
+            int ticks = x.drainIn();
+            for (int left = ticks; left > 0; left--) {
+                same("something is left at " + left + " behind " + start, isDrained(x), false);
+                x.pass(1);
+            }
+            same("nothing is left behind " + start, isDrained(x), true);
+        }
     }
 
     // Promise 25
@@ -264,6 +281,25 @@ public final class WouldBeBoundaryTest extends Relays {
         OutboxRelay x = after(withSkips());
         x.drop(0);
         same("behind a commit and a drop", List.of(x.skips(0, 0), x.skips(1, 2)), List.of(-1, -1));
+    }
+
+    @Sentence(promise = 26, says = "Tells how many rows a commit would make a receiver skip.")
+    static void skipsTellsAsCommitMakes() {
+        for (int topics = 0; topics < 16; topics++) {
+            OutboxRelay x = after(withSkips());
+            int mask = topics;
+            told(3, r -> x.want(r, mask >> r));
+            List<Integer> skips = told(3, r -> x.skips(0, r));
+            List<Integer> before = ofReceivers(x, 10);
+            x.commit(0);
+            List<Integer> more = told(3, r -> x.receiver(r, 10) - before.get(r));
+            int[] wanted = {0, 0, 0};
+            for (int r = 0; r < 3; r++) {
+                wanted[r] = 2 * (mask >> r & 1) + (mask >> r >> 3 & 1);
+            }
+            same("skipped or sent, with topics " + topics, told(3, r -> skips.get(r) + more.get(r)),
+                told(3, r -> wanted[r]));
+        }
     }
 
     @Sentence(promise = 26, says = "Throws `IndexOutOfBoundsException` if there is no such place or receiver")
@@ -452,6 +488,17 @@ public final class WouldBeBoundaryTest extends Relays {
         sameDigest("two", inTurn(two, passing(5)), false, "", 0, 1);
         sameDigest("full", inTurn(two, x -> commitMany(x, 1), passing(5)), false, "", 0, 1, 2);
         sameDigest("without the first", inTurn(two, x -> commitMany(x, 2), passing(9)), false, "", 1, 2, 3);
+    }
+
+    @Sentence(promise = 30, says = "for each receiver its numbers 0 to 13, the numbers in its memory, the one that came"
+        + " first ahead, and ifPassed of 10 ticks with 0 to 3")
+    static void theDigestWithWhatTenTicksWouldBring() {
+        // With nine ticks a batch comes in the tenth, and with four its answer in the ninth.
+        for (int ticks = 1; ticks <= 9; ticks++) {
+            Step rows = inTurn(with(TICKS, ticks, WAIT, 1, BY_MARK, 0, MEMORY, 1), x -> commitRows(x, 0, 1, 1, 2),
+                x -> x.want(1, 1), x -> x.want(2, 8));
+            sameDigest("with messages that take " + ticks, rows, false, "");
+        }
     }
 
     @Sentence(promise = 30, says = "for each message on its way, by its rank, its numbers 0 to 4")
