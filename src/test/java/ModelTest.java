@@ -8,6 +8,27 @@ public final class ModelTest {
     private static final String[] PARTS = {"b", "w00=5", "w11=99", "w23=0", "w31=10", "c0", "c1", "c2", "c3", "d0",
         "t1", "t7", "t12", "s", "t0", "w04=1", "w1", "x", "w00=07", "d", ";"};
 
+    // What a call may be, and how often it is in runs of each style.
+    private static final int BEGIN = 0;
+    private static final int WRITE = 1;
+    private static final int COMMIT = 2;
+    private static final int DROP = 3;
+    private static final int PASS = 4;
+    private static final int LOSE = 5;
+    private static final int SWEEP = 6;
+    private static final int SET = 7;
+    private static final int WANT = 8;
+    private static final int TEXT = 9;
+    private static final int SNAPSHOT = 10;
+    private static final int LOOK = 11;
+    private static final int FILL = 12;
+    private static final int[][] WEIGHTS = {
+        {10, 20, 10, 5, 15, 3, 5, 10, 5, 5, 5, 10, 0},
+        {2, 5, 2, 1, 15, 1, 10, 1, 2, 0, 1, 1, 40},
+        {10, 20, 15, 1, 60, 10, 5, 5, 15, 0, 2, 5, 0},
+        {5, 10, 5, 1, 20, 2, 5, 5, 10, 5, 5, 5, 5},
+    };
+
     private final Checks checks;
     private final Random random;
     private final int run;
@@ -60,71 +81,93 @@ public final class ModelTest {
     }
 
     private void run() {
-        int style = below(4);
+        int style = run % WEIGHTS.length;
+        if (style > 0) {
+            choosesSettings(style);
+        }
         while (calls < CALLS && checks.wrong() < 20) {
-            call(style);
-            if (below(4) == 0) {
+            call(kindOf(WEIGHTS[style]));
+            if (below(style == 1 ? 12 : 4) == 0) {
                 same("digest()", relay::digest, naive::digest);
             }
         }
     }
 
-    private void call(int style) {
-        switch (below(20)) {
-            case 0, 1:
-                same("begin()", relay::begin, naive::begin);
-                break;
-            case 2, 3, 4, 5:
-                writes();
-                break;
-            case 6, 7:
-                int place = within(0, 3);
-                same("commit(" + place + ")", () -> relay.commit(place), () -> naive.commit(place));
-                break;
-            case 8:
-                drops();
-                break;
-            case 9, 10, 11:
-                int ticks = below(6) == 0 ? within(1, 99) : 1 + below(4);
-                same("pass(" + ticks + ")", () -> relay.pass(ticks), () -> naive.pass(ticks));
-                break;
-            case 12:
-                if (style == 0) {
-                    same("lose()", relay::lose, naive::lose);
-                } else {
-                    same("sweep()", relay::sweep, naive::sweep);
-                }
-                break;
-            case 13, 14:
-                sets();
-                break;
-            case 15:
-                wants();
-                break;
-            case 16:
-                texts();
-                break;
-            case 17:
-                snapshots();
-                break;
-            default:
-                looks();
-                break;
+    /** Settings with which rows go through soon in style 1, and are sent again soon, and come late, in style 2. */
+    private void choosesSettings(int style) {
+        setTo(0, below(2));
+        setTo(1, 1 + below(style == 1 ? 2 : 9));
+        setTo(2, style == 1 ? 8 : 1 + below(3));
+        setTo(3, 1 + below(style == 3 ? 9 : 2));
+        setTo(4, below(2) * (2 + below(8)));
+        setTo(5, below(style == 2 ? 4 : 2) == 0 ? 1 : 0);
+        setTo(6, 1 + below(3));
+    }
+
+    private int kindOf(int[] weights) {
+        int sum = 0;
+        for (int weight : weights) {
+            sum += weight;
+        }
+        int left = below(sum);
+        int kind = 0;
+        while (left >= weights[kind]) {
+            left -= weights[kind];
+            kind++;
+        }
+        return kind;
+    }
+
+    private void call(int kind) {
+        switch (kind) {
+            case BEGIN -> same("begin()", relay::begin, naive::begin);
+            case WRITE -> writes();
+            case COMMIT -> commitAt(within(0, 3));
+            case DROP -> drops();
+            case PASS -> passes();
+            case LOSE -> same("lose()", relay::lose, naive::lose);
+            case SWEEP -> same("sweep()", relay::sweep, naive::sweep);
+            case SET -> sets();
+            case WANT -> wants();
+            case TEXT -> texts();
+            case SNAPSHOT -> snapshots();
+            case LOOK -> looks();
+            case FILL -> fills();
         }
     }
 
+    /** Commits a transaction with up to six rows, if there is a place for one. */
+    private void fills() {
+        same("begin()", relay::begin, naive::begin);
+        int place = below(4);
+        int rows = naive.transaction(place, 0);
+        for (int i = rows; rows >= 0 && i < 6 - below(2); i++) {
+            writeAt(place, below(4), below(100));
+        }
+        commitAt(place);
+    }
+
+    private void commitAt(int place) {
+        same("commit(" + place + ")", () -> relay.commit(place), () -> naive.commit(place));
+    }
+
+    private void passes() {
+        int ticks = below(6) == 0 ? within(1, 99) : 1 + below(4);
+        same("pass(" + ticks + ")", () -> relay.pass(ticks), () -> naive.pass(ticks));
+    }
+
     private void writes() {
-        int place = within(0, 3);
-        int topic = within(0, 3);
-        int value = within(0, 99);
+        writeAt(within(0, 3), within(0, 3), within(0, 99));
+    }
+
+    private void writeAt(int place, int topic, int value) {
         same("write(" + place + ", " + topic + ", " + value + ")",
             () -> relay.write(place, topic, value), () -> naive.write(place, topic, value));
     }
 
     private void drops() {
-        int place = within(0, 12);
+        int place = within(0, 3);
         same("drop(" + place + ")", () -> relay.drop(place), () -> naive.drop(place));
-        same("sweep()", relay::sweep, naive::sweep);
     }
 
     private void wants() {
@@ -141,9 +184,11 @@ public final class ModelTest {
         if (setting == 4 && below(2) == 0) {
             value = 0;
         }
-        int chosen = value;
-        same("set(" + setting + ", " + chosen + ")",
-            () -> relay.set(setting, chosen), () -> naive.set(setting, chosen));
+        setTo(setting, value);
+    }
+
+    private void setTo(int setting, int value) {
+        same("set(" + setting + ", " + value + ")", () -> relay.set(setting, value), () -> naive.set(setting, value));
     }
 
     private void texts() {
@@ -202,7 +247,7 @@ public final class ModelTest {
     }
 
     public static void main(String[] args) {
-        int runs = args.length == 0 ? 600 : Integer.parseInt(args[0]);
+        int runs = args.length == 0 ? 300 : Integer.parseInt(args[0]);
         Checks checks = new Checks("ModelTest");
         for (int run = 1; run <= runs; run++) {
             new ModelTest(checks, run).run();

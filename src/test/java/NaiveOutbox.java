@@ -2,7 +2,9 @@ import java.util.ArrayDeque;
 import java.util.ArrayList;
 import java.util.Comparator;
 import java.util.Deque;
+import java.util.HashSet;
 import java.util.List;
+import java.util.Set;
 import java.util.regex.Matcher;
 import java.util.regex.Pattern;
 
@@ -20,7 +22,13 @@ final class NaiveOutbox {
 
     private record Happened(int receiver, Row row, boolean effect) { }
 
-    private record Post(int index, boolean answer, int receiver, int sentIn, int due, List<Row> rows, int number) { }
+    private record Post(int index, boolean answer, int receiver, int sentIn, int due, List<Row> rows, int number) {
+
+        @Override
+        public int hashCode() {
+            return index;
+        }
+    }
 
     private record Came(Post post, int tick) { }
 
@@ -29,10 +37,10 @@ final class NaiveOutbox {
         int[] wanted = {15, 15, 15};
         List<List<Row>> open = new ArrayList<>();
         List<Row> committed = new ArrayList<>();
-        List<Row> swept = new ArrayList<>();
+        Set<Row> swept = new HashSet<>();
         List<Happened> log = new ArrayList<>();
         List<Post> posts = new ArrayList<>();
-        List<Post> lost = new ArrayList<>();
+        Set<Post> lost = new HashSet<>();
         List<Came> came = new ArrayList<>();
         List<List<Integer>> memories = new ArrayList<>();
         List<Integer> unseen = new ArrayList<>();

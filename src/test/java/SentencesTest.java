@@ -12,9 +12,9 @@ import java.util.regex.Matcher;
 import java.util.regex.Pattern;
 
 /**
- * That the boundary tests quote the document word by word, and that each
- * promise and each word of the terms is quoted, but for what names no boundary
- * case and for the signatures, which FaceTest reads. Started in the project's
+ * That the boundary tests quote the document word by word, and that none of
+ * its words are left, but for those that name no boundary case, and for the
+ * face and the signatures, which FaceTest reads. Started in the project's
  * folder.
  */
 public final class SentencesTest {
